@@ -586,7 +586,6 @@ public final class BearingMoves {
             }
             at++;
             rules.addTerm(sign, upper, lower, letter - 'a');
-            skipBlanks();
             return true;
         }
 

@@ -37,11 +37,14 @@ public final class BearingMovesAgainstModel {
         }
 
         void play() {
-            for (int i = 0; i < 1 + number % 10; i++) {
+            for (int i = 0; i < (isGreat ? 1 + number % 2 : 1 + number % 10); i++) {
                 bearing();
             }
             for (int i = 0; i < 60; i++) {
                 value();
+            }
+            for (int i = 0; isGreat && i < 24; i++) {
+                value(i / 3, 0, i % 3);
             }
             text();
             while (calls < CALLS) {
@@ -95,9 +98,10 @@ public final class BearingMovesAgainstModel {
         }
 
         private void value() {
-            int kind = some(0, 7);
-            int b = someBearing();
-            int axis = some(0, 2);
+            value(some(0, 7), someBearing(), some(0, 2));
+        }
+
+        private void value(int kind, int b, int axis) {
             int above = isGreat ? some(-1_000_000, 1_000_000) : some(-3, 3);
             int below = isGreat ? some(1, 1_000) : some(1, 3);
             due("value(" + kind + ", " + b + ", " + axis + ", " + above + ", " + below + ")",
@@ -106,10 +110,10 @@ public final class BearingMovesAgainstModel {
 
         private void text() {
             StringBuilder text = new StringBuilder();
-            int rules = random.nextInt(100) < wrongInPercent ? 9 : 1 + random.nextInt(isGreat ? 3 : 6);
+            int rules = random.nextInt(100) < wrongInPercent ? 9 : 1 + random.nextInt(isGreat ? 4 : 6);
             for (int rule = 0; rule < rules; rule++) {
                 text.append(rule == 0 ? "" : ";");
-                int terms = random.nextInt(100) < wrongInPercent ? 7 : 1 + random.nextInt(isGreat ? 6 : 3);
+                int terms = random.nextInt(100) < wrongInPercent ? 7 : isGreat ? 3 + random.nextInt(4) : 1 + random.nextInt(3);
                 for (int term = 0; term < terms; term++) {
                     blanks(text);
                     text.append("+-**".charAt(random.nextInt(4)));
@@ -159,7 +163,7 @@ public final class BearingMovesAgainstModel {
         private void call(int which) {
             switch (which) {
                 case 0 -> {
-                    if (random.nextInt(4) == 0) {
+                    if (random.nextInt(isGreat ? 40 : 4) == 0) {
                         bearing();
                     }
                 }

@@ -1,3 +1,5 @@
+import java.math.BigInteger;
+
 /** Each promise of the document, one method a promise: ordinary inputs, the edges it names, and wrong inputs. */
 public final class BearingMovesPromises {
     private static final int BAD = -1, NONE = -2;
@@ -304,27 +306,36 @@ public final class BearingMovesPromises {
         dueSum(x, 0, 1, 2, 1);
     }
 
+    /** Over twelve different primes, so that nothing can be shortened. */
     private static void sumParts() {
         promise = 7;
-        BearingMoves x = withBearings(0, 0);
+        dueGreatSum(1, 1, 1, 1, 1, 1);
+        dueGreatSum(-1, -1, -1, -1, -1, -1);
+        dueGreatSum(1, -1, 1, -1, 1, -1);
+        dueGreatSum(-1, 1, -1, 1, -1, 1);
+        dueGreatSum(1, 1, -1, -1, 1, -1);
+        dueGreatSum(-1, 1, 1, 1, -1, -1);
+    }
+
+    private static void dueGreatSum(int... signs) {
         int[] below = {997, 991, 983, 977, 971, 967};
-        for (int kind = 0; kind < 6; kind++) {
-            x.value(kind, 0, 2, -1_000_000, below[kind]);
+        int[] under = {953, 947, 941, 937, 929, 919};
+        BearingMoves x = withBearings(0, 0);
+        BigInteger lower = BigInteger.ONE;
+        for (int i = 0; i < 6; i++) {
+            x.value(i, 0, 2, signs[i] * 1_000_000, below[i]);
+            lower = lower.multiply(BigInteger.valueOf(below[i] * under[i]));
         }
         read(x, "+999/953a+999/947b+999/941c+999/937d+999/929e+999/919f");
-        // by hand: six fractions over twelve different primes, so nothing can be shortened
-        java.math.BigInteger lower = java.math.BigInteger.ONE;
-        int[] under = {953, 947, 941, 937, 929, 919};
+        BigInteger upper = BigInteger.ZERO;
         for (int i = 0; i < 6; i++) {
-            lower = lower.multiply(java.math.BigInteger.valueOf(below[i] * under[i]));
+            BigInteger others = lower.divide(BigInteger.valueOf(below[i] * under[i]));
+            upper = upper.add(others.multiply(BigInteger.valueOf(signs[i])));
         }
-        java.math.BigInteger upper = java.math.BigInteger.ZERO;
-        for (int i = 0; i < 6; i++) {
-            upper = upper.add(lower.divide(java.math.BigInteger.valueOf(below[i] * under[i])));
-        }
-        upper = upper.multiply(java.math.BigInteger.valueOf(999_000_000));
-        java.math.BigInteger eighteen = java.math.BigInteger.TEN.pow(18);
-        due("sum(0, 2, 0, -1)", x.sum(0, 2, 0, -1), -1);
+        upper = upper.multiply(BigInteger.valueOf(999_000_000));
+        due("sum(0, 2, 0, -1)", x.sum(0, 2, 0, -1), upper.signum());
+        upper = upper.abs();
+        BigInteger eighteen = BigInteger.TEN.pow(18);
         for (int k = 0; k < 8; k++) {
             due("upper part " + k, x.sum(0, 2, 0, 2 * k), upper.mod(eighteen).longValue());
             due("lower part " + k, x.sum(0, 2, 0, 2 * k + 1), lower.mod(eighteen).longValue());
@@ -368,6 +379,16 @@ public final class BearingMovesPromises {
         due("the greatest is the last", x.caseOf(0, 0, 1), 1);
         read(x, "+2b;+b");
         due("the greatest is below 0", x.caseOf(0, 0, 1), 1);
+        x.value(2, 0, 0, 999_999, 997);
+        x.value(3, 0, 0, 999_999, 991);
+        x.value(4, 0, 0, 2_013, 1);
+        x.value(5, 0, 0, 2_012, 1);
+        read(x, "+c+d;+e");
+        due("2012.09 and 2013: the greatest", x.caseOf(0, 0, 1), 1);
+        due("2012.09 and 2013: the least", x.caseOf(0, 0, 0), 0);
+        read(x, "-f;-c-d");
+        due("-2012 and -2012.09: the greatest", x.caseOf(0, 0, 1), 0);
+        due("-2012 and -2012.09: the least", x.caseOf(0, 0, 0), 1);
         int[][] none = {{-1, 0, 0}, {1, 0, 0}, {0, -1, 0}, {0, 3, 0}, {0, 0, -1}, {0, 0, 2}, {HIGH, LOW, HIGH}};
         for (int[] v : none) {
             due("caseOf" + java.util.Arrays.toString(v), x.caseOf(v[0], v[1], v[2]), BAD);
