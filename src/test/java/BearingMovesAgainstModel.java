@@ -134,7 +134,7 @@ public final class BearingMovesAgainstModel {
             if (random.nextInt(4) == 0) {
                 spoil(text);
             }
-            for (int i = 0; i < text.length() && calls < CALLS; i++) {
+            for (int i = 0; i < text.length() && calls < CALLS - 1; i++) {
                 int u = text.charAt(i);
                 due("unit(" + u + ")", real.unit(u), model.unit(u));
             }
@@ -243,7 +243,9 @@ public final class BearingMovesAgainstModel {
                     int k = someBearing();
                     due("inspect(" + k + ")", real.inspect(k), model.inspect(k));
                     int what = some(0, 6);
-                    due("count(" + what + ")", real.count(what), model.count(what));
+                    if (calls < CALLS) {
+                        due("count(" + what + ")", real.count(what), model.count(what));
+                    }
                 }
             }
         }
