@@ -113,7 +113,8 @@ public final class BearingMovesAgainstModel {
             int rules = random.nextInt(100) < wrongInPercent ? 9 : 1 + random.nextInt(isGreat ? 4 : 6);
             for (int rule = 0; rule < rules; rule++) {
                 text.append(rule == 0 ? "" : ";");
-                int terms = random.nextInt(100) < wrongInPercent ? 7 : isGreat ? 3 + random.nextInt(4) : 1 + random.nextInt(3);
+                int goodTerms = isGreat ? 3 + random.nextInt(4) : 1 + random.nextInt(3);
+                int terms = random.nextInt(100) < wrongInPercent ? 7 : goodTerms;
                 for (int term = 0; term < terms; term++) {
                     blanks(text);
                     text.append("+-**".charAt(random.nextInt(4)));

@@ -2,13 +2,18 @@ import java.io.IOException;
 import java.math.BigInteger;
 import java.nio.file.Files;
 import java.nio.file.Path;
+import java.util.ArrayList;
 import java.util.Arrays;
+import java.util.LinkedHashMap;
+import java.util.List;
+import java.util.Map;
 import java.util.function.IntPredicate;
 import java.util.function.IntToLongFunction;
 
 /**
- * The boundary cases that the document names, a test for each of its sentences. A test says where its sentence
- * stands (Terms, or the promise) and quotes it; what refused calls leave of the state is in BearingMovesRefusals.
+ * A test for each sentence of the document, with the boundary cases that it names. A test says where its sentence
+ * stands (Terms, or the promise) and quotes it; a sentence of the document that no test quotes is a fault, too.
+ * What refused calls leave of the state is in BearingMovesRefusals, what calls change in BearingMovesChanges.
  */
 public final class BearingMovesEdges {
     private static final int BAD = -1, NONE = -2;
@@ -22,14 +27,22 @@ public final class BearingMovesEdges {
     private static int wrong = 0;
     private static int sentences = 0;
     private static String sentence = "";
+    private static final Map<String, List<String>> QUOTES = new LinkedHashMap<>();
 
     public static void main(String[] args) throws IOException {
+        whatItIs();
         terms();
         promises();
+        everySentenceIsQuoted();
         System.out.println(wrong == 0 ? sentences + " sentences hold" : wrong + " answers are not as due");
         if (wrong != 0) {
             System.exit(1);
         }
+    }
+
+    private static void whatItIs() throws IOException {
+        oneBridge();
+        calls();
     }
 
     private static void terms() throws IOException {
@@ -49,10 +62,10 @@ public final class BearingMovesEdges {
         greatestAndLeast();
         worst();
         heldAxes();
+        lockedByShiftAndTurn();
         lockedRows();
         jointBounds();
         growthOfGaps();
-        calls();
     }
 
     private static void promises() throws IOException {
@@ -73,15 +86,18 @@ public final class BearingMovesEdges {
         rankPromise();
         directionPromise();
         jointPromise();
+        gapAtAWarmth();
         gapPromise();
         dayPromise();
         travelPromise();
         listPromise();
+        bestOfEachBearing();
         bestHolds();
         bestOfSeveral();
         bestOfNone();
         jackPromise();
         raisedPromise();
+        inspectEachOnce();
         inspectPromise();
         countPromise();
     }
@@ -90,6 +106,7 @@ public final class BearingMovesEdges {
     private static void sentence(String place, String quote) throws IOException {
         sentence = place + ", '" + quote + "'";
         sentences++;
+        QUOTES.computeIfAbsent(place, p -> new ArrayList<>()).add(quote);
         Path document = Path.of("../shared/DOC.md");
         if (Files.exists(document) && !section(Files.readString(document), place).contains(quote)) {
             wrong++;
@@ -104,6 +121,32 @@ public final class BearingMovesEdges {
         }
         int to = document.indexOf("\n## ", from);
         return to < 0 ? document.substring(from) : document.substring(from, to);
+    }
+
+    /** Without its headings, its signatures and the quotes a place of the document has no letter or digit left. */
+    private static void everySentenceIsQuoted() throws IOException {
+        Path file = Path.of("../shared/DOC.md");
+        if (!Files.exists(file)) {
+            return;
+        }
+        String document = Files.readString(file);
+        List<String> places = new ArrayList<>(List.of("What it is", "Terms"));
+        for (int promise = 1; promise <= 21; promise++) {
+            places.add("Promise " + promise);
+        }
+        for (String place : places) {
+            String left = section(document, place).replaceFirst("## .*", "").replaceAll("`[^`\n]+`", "");
+            left = left.replace("```text", "");
+            List<String> quotes = new ArrayList<>(QUOTES.getOrDefault(place, List.of()));
+            quotes.sort((one, other) -> other.length() - one.length());
+            for (String quote : quotes) {
+                left = left.replace(quote, "");
+            }
+            if (!left.replaceAll("[^A-Za-z0-9]", "").isEmpty()) {
+                wrong++;
+                System.out.println(place + ": no test quotes '" + left.trim() + "'");
+            }
+        }
     }
 
     private static void due(String what, long got, long want) {
@@ -219,10 +262,63 @@ public final class BearingMovesEdges {
         return x;
     }
 
+    // What it is
+
+    /** A deck of 30 m on three bearings, from its places to its inspection, every answer reckoned by hand. */
+    private static void oneBridge() throws IOException {
+        sentence("What it is", "What the bearings of a bridge must bear: moves and loads of several kinds, put "
+            + "together by rules that a text tells, over all signs that may be; whether places that are held lock one "
+            + "another when all grows; gaps and wear by warmth; the least bearing from a list that holds; jacking "
+            + "step by step; and an order of inspection.");
+        BearingMoves x = hold(at(0, 0, 30_000, 0, 30_000, 8_000), 0, 0, 0, 1, 1, 1);
+        x.value(0, 2, 0, 21, 2);
+        x.value(1, 2, 0, -11, 4);
+        x.value(0, 2, 2, 640, 1);
+        x.value(2, 2, 2, 85, 3);
+        due("rules()", read(x, "+a*b+3/2c; -1/2a*2b"), 2);
+        dueParts("the greatest move", part -> x.sum(2, 0, 1, part), 53, 4);
+        dueParts("the least move", part -> x.sum(2, 0, 0, part), -43, 4);
+        dueParts("the worst move", part -> x.sum(2, 0, 2, part), 53, 4);
+        dueParts("the greatest load", part -> x.sum(2, 2, 1, part), 1_365, 2);
+        due("the case of the least move", x.caseOf(2, 0, 0), 1);
+        dueRank("fixed, guided and free", x, 3, 3);
+        due("the free one moves along x", x.direction(2, 0), 15);
+        due("the free one moves along y", x.direction(2, 1), 4);
+        hold(x, 1, 0);
+        dueRank("fixed twice", x, 4, 3);
+        x.joint(1, 30_000, 10_000, 100);
+        x.joint(2, 30_000, 5_000, 150);
+        dueParts("the gap of 1 in heat", part -> x.gap(1, 350, part), 1, 1);
+        dueParts("the gap of 2 in frost", part -> x.gap(2, -100, part), 14, 1);
+        x.day(120);
+        x.day(170);
+        x.day(70);
+        dueParts("the wear of 2", part -> x.travel(2, part), 27, 5);
+        x.list(13, 700);
+        x.list(14, 800);
+        x.list(15, 700);
+        due("the least that holds 2", x.best(2), 2);
+        due("the least that holds 0", x.best(0), 0);
+        due("raisings", x.jack(25, 10), 9);
+        due("the first one, behind the first of the third round", x.raised(7, 0), 25);
+        due("the second one, too", x.raised(7, 1), 20);
+        dueOrder("most wear, then most load", x, 2, 1, 0);
+    }
+
+    private static void calls() throws IOException {
+        sentence("What it is", "An object is used for at most 512 calls after it has been made; what later calls "
+            + "answer is free.");
+        BearingMoves x = withJoint(1_000_000, 0, 0);
+        for (int call = 3; call <= 511; call++) {
+            x.rank(call % 2 == 0);
+        }
+        due("call 512", x.gap(0, 900, 0), 1_080);
+    }
+
     // Terms
 
     private static void fractionsInLeastTerms() throws IOException {
-        sentence("Terms", "FRACTIONS are told in least terms (0 as 0 / 1)");
+        sentence("Terms", "FRACTIONS are told in least terms (0 as 0 / 1) by PARTS");
         dueSum("a sum without rules", withBearings(1), 0, 1, 0, 1);
         int[][] values = {{0, 1_000, 0, 1}, {1_000_000, 1_000, 1_000, 1}, {-1_000_000, 1_000, -1_000, 1},
             {1, 1_000, 1, 1_000}, {-1, 1_000, -1, 1_000}, {500, 1_000, 1, 2}, {999_999, 999, 1_001, 1},
@@ -590,6 +686,51 @@ public final class BearingMovesEdges {
         }
     }
 
+    /** Every choice of what is held, in four places each time. */
+    private static void lockedByShiftAndTurn() throws IOException {
+        sentence("Terms", "LOCKED are they, if no small shift and turn of the whole leaves all that is held in its "
+            + "place when all grows alike");
+        int[][] allPlaces = {{0, 0, 10, 0, 0, 10, 10, 10}, {0, 0, 10, 0, 20, 0, 30, 0}, {5, 5, 6, 7, 7, 9, 8, 11},
+            {-3, 4, 5, 5, 6, -3, -3, 4}, {2, 1, -1, 2, -2, -1, 1, -2}, {0, 3, 0, -3, 0, 3, 0, 9},
+            {100_000, 100_000, -100_000, -100_000, 100_000, -99_999, -99_999, 100_000}};
+        for (int[] places : allPlaces) {
+            for (int choice = 0; choice < 256; choice++) {
+                BearingMoves x = at(places);
+                for (int row = 0; row < 8; row++) {
+                    x.held(row / 2, row % 2, (choice >> row & 1) == 1);
+                }
+                due("locked() at " + Arrays.toString(places) + ", held " + Integer.toBinaryString(choice), x.locked(),
+                    !hasShiftAndTurn(places, choice));
+            }
+        }
+    }
+
+    /**
+     * When all grows by one part, a shift of u, v and a turn of w move a place by x + u - y w, y + v + x w. Of two that
+     * are held on one axis, u or v takes one back for any turn, and the other one then asks a turn by itself.
+     */
+    private static boolean hasShiftAndTurn(int[] places, int choice) {
+        long turnAbove = 0;
+        long turnBelow = 0;
+        for (int one = 0; one < 8; one++) {
+            for (int other = one + 2; other < 8; other += 2) {
+                if ((choice >> one & 1) == 1 && (choice >> other & 1) == 1) {
+                    long alongX = places[other / 2 * 2] - places[one / 2 * 2];
+                    long alongY = places[other / 2 * 2 + 1] - places[one / 2 * 2 + 1];
+                    long above = one % 2 == 0 ? alongX : -alongY;
+                    long below = one % 2 == 0 ? alongY : alongX;
+                    boolean isAnyTurn = above == 0 && below == 0;
+                    if (above != 0 && below == 0 || turnAbove * below != above * turnBelow) {
+                        return false;
+                    }
+                    turnAbove = isAnyTurn ? turnAbove : above;
+                    turnBelow = isAnyTurn ? turnBelow : below;
+                }
+            }
+        }
+        return true;
+    }
+
     private static void lockedRows() throws IOException {
         sentence("Terms", "a held axis 0 at x, y gives the row 1, 0, - y, x; a held axis 1 the row 0, 1, x, y; they "
             + "are locked, if the rows have a greater rank than their first three numbers.");
@@ -657,15 +798,6 @@ public final class BearingMovesEdges {
         dueGap(withJoint(999_999, 10_000, -600), 900, -8_949_991, 5_000);
         dueGap(withJoint(1_000_000, 10_000, 900), 900, 10, 1);
         dueGap(withJoint(1_000_000, 10_000, -600), -600, 10, 1);
-    }
-
-    private static void calls() throws IOException {
-        sentence("What it is", "An object is used for at most 512 calls after it has been made");
-        BearingMoves x = withJoint(1_000_000, 0, 0);
-        for (int call = 3; call <= 511; call++) {
-            x.rank(call % 2 == 0);
-        }
-        due("call 512", x.gap(0, 900, 0), 1_080);
     }
 
     // Promises
@@ -1070,6 +1202,23 @@ public final class BearingMovesEdges {
         dueRange("warmth", -600, 900, warmth -> withBearings(1).joint(0, 0, -10_000, warmth));
     }
 
+    private static void gapAtAWarmth() throws IOException {
+        sentence("Promise 13", "The gap at a warmth, in mm, by parts");
+        int[][] joints = {{1_000_000, 10_000, 900}, {999_983, -9_973, -600}, {0, 7, 3}, {1, -1, 0},
+            {25_000, 2_500, 100}};
+        for (int[] joint : joints) {
+            for (int warmth = -600; warmth <= 900; warmth += 50) {
+                BigInteger upper = BigInteger.valueOf(joint[1] * 10_000L - 12L * joint[0] * (warmth - joint[2]));
+                BigInteger lower = BigInteger.valueOf(10_000_000);
+                BigInteger common = upper.gcd(lower);
+                BearingMoves x = withJoint(joint[0], joint[1], joint[2]);
+                int asked = warmth;
+                dueParts("the gap of " + Arrays.toString(joint) + " at " + warmth, part -> x.gap(0, asked, part),
+                    upper.divide(common), lower.divide(common));
+            }
+        }
+    }
+
     private static void gapPromise() throws IOException {
         sentence("Promise 13", "(of a bearing without a joint: length 0, gap 0)");
         BearingMoves x = withBearings(1);
@@ -1189,6 +1338,19 @@ public final class BearingMovesEdges {
         BearingMoves x = needing(wholes, littles);
         x.list(moves, load);
         due(what, x.best(0), due);
+    }
+
+    private static void bestOfEachBearing() throws IOException {
+        sentence("Promise 17", "The one in the list that holds a bearing");
+        BearingMoves x = withRules(10, "*a");
+        for (int i = 0; i < 10; i++) {
+            x.value(0, i, i % 2, i % 3 == 0 ? -i : i, 1);
+            x.value(0, i, 2, 10 * i, 1);
+            due("list " + i, x.list(9 - i, 100 - 10 * (i + 1)), i);
+        }
+        for (int i = 0; i < 10; i++) {
+            due("the one that holds bearing " + i, x.best(i), 9 - i);
+        }
     }
 
     private static void bestHolds() throws IOException {
@@ -1390,6 +1552,30 @@ public final class BearingMovesEdges {
         grows.jack(7, 7);
         due("an eleventh does not come", grows.bearing(0, 0), BAD);
         due("behind the last jack()", grows.raised(10, 9), 7);
+    }
+
+    private static void inspectEachOnce() throws IOException {
+        sentence("Promise 20", "The bearing that is inspected in place k");
+        for (int number = 1; number <= 10; number++) {
+            BearingMoves x = withRules(number, "+a;-b");
+            x.day(0);
+            x.day(100);
+            for (int b = 0; b < number; b++) {
+                x.joint(b, b * 7 % 4, 0, 0);
+                x.value(0, b, 2, b * 3 % 5, 1);
+                x.value(1, b, 2, b * 5 % 3, 1);
+            }
+            boolean[] isSeen = new boolean[number];
+            for (int k = 0; k < number; k++) {
+                int bearing = x.inspect(k);
+                boolean isNew = bearing >= 0 && bearing < number && !isSeen[bearing];
+                due("of " + number + ", place " + k + " has a bearing that no place before has", isNew, true);
+                if (isNew) {
+                    isSeen[bearing] = true;
+                }
+                due("of " + number + ", place " + k + " asked again", x.inspect(k), bearing);
+            }
+        }
     }
 
     private static void inspectPromise() throws IOException {

@@ -27,6 +27,7 @@ public final class BearingMovesFace {
 
     public static void main(String[] args) throws Exception {
         face();
+        documentsFace();
         source();
         room();
         System.out.println(wrong == 0 ? "the face is as due" : wrong + " faults");
@@ -55,6 +56,7 @@ public final class BearingMovesFace {
             }
         }
         for (Constructor<?> c : BearingMoves.class.getDeclaredConstructors()) {
+            due("the constructor is public", Modifier.isPublic(c.getModifiers()));
             seen.add("BearingMoves" + types(c.getParameterTypes()));
         }
         for (Method m : BearingMoves.class.getDeclaredMethods()) {
@@ -77,6 +79,31 @@ public final class BearingMovesFace {
             due(c.getName() + " is static", Modifier.isStatic(c.getModifiers()));
             due(c.getName() + " is not public", !Modifier.isPublic(c.getModifiers()));
         }
+    }
+
+    /** "The public face": the document's own lines, less the names of the parameters, are the face that is due. */
+    private static void documentsFace() throws Exception {
+        Path file = Path.of("../shared/DOC.md");
+        if (!Files.exists(file)) {
+            return;
+        }
+        String document = Files.readString(file);
+        String section = document.substring(document.indexOf("## The public face"), document.indexOf("## Terms"));
+        Set<String> told = new TreeSet<>();
+        for (String line : section.split("\n")) {
+            if (line.startsWith("    public ") && line.contains("(")) {
+                told.add(line.trim().replaceAll("public |;", "").replaceAll("(int|boolean) \\w+([,)])", "$1$2"));
+            }
+        }
+        due("a face in the document", section.contains("public final class BearingMoves {") && told.size() == 21);
+        due("the constants", section.contains("public static final int BAD = " + BearingMoves.BAD + ", NONE = "
+            + BearingMoves.NONE + ";"));
+        for (String name : new String[] {"BAD", "NONE"}) {
+            due(name + " is public and final", Modifier.isPublic(BearingMoves.class.getField(name).getModifiers())
+                && Modifier.isFinal(BearingMoves.class.getField(name).getModifiers()));
+            told.add("static int " + name);
+        }
+        due("the document's face " + told + " is " + FACE, told.equals(FACE));
     }
 
     private static void source() throws Exception {
